@@ -122,6 +122,8 @@ public final class RopeWalk {
     private final Sightings sightings = new Sightings();
     private final Changes changes = new Changes();
     private final Allotment allotment = new Allotment();
+    // Sets of VOYAGES that putOff() has to look at.
+    private final boolean[] isReached = new boolean[1 << VOYAGES_MOST];
 
     public RopeWalk() {
     }
@@ -357,7 +359,7 @@ public final class RopeWalk {
             return 0;
         }
         startTrial(ship, AS_IT_GOES);
-        for (int i = 1; i <= SEARCH_DAYS; i++) {
+        for (int i = 1; i <= SEARCH_DAYS && course.canSail(trial); i++) {
             course.pass(trial);
             if (trial.shipIs[ship] == SHIP_LOST) {
                 return i;
@@ -371,7 +373,7 @@ public final class RopeWalk {
             return NONE;
         }
         startTrial(ship, AS_IT_GOES);
-        for (int i = 1; i <= SEARCH_DAYS && trial.shipIs[ship] != SHIP_LOST; i++) {
+        for (int i = 1; i <= SEARCH_DAYS && course.canSail(trial); i++) {
             course.pass(trial);
             if (trial.timesHome[ship] > now.timesHome[ship]) {
                 return i;
@@ -508,11 +510,15 @@ public final class RopeWalk {
             return CANNOT;
         }
         int most = Integer.bitCount(all);
+        forgetReached();
         for (int many = 0; many < most; many++) {
             int bits = 0;
             for (int i = 0; i < 1 << most; i++) {
-                if (Integer.bitCount(bits) == many && survives(ship, bits)) {
-                    return bits;
+                if (isReached[bits] && Integer.bitCount(bits) == many) {
+                    if (survives(ship, bits)) {
+                        return bits;
+                    }
+                    reachFrom(bits);
                 }
                 // The next greater set within all.
                 bits = (bits - all) & all;
@@ -524,10 +530,25 @@ public final class RopeWalk {
     private boolean survives(int ship, int putOff) {
         startTrial(ship, AS_IT_GOES);
         course.untold = putOff;
-        for (int i = 0; i < PUT_OFF_DAYS && trial.shipIs[ship] != SHIP_LOST; i++) {
+        for (int i = 0; i < PUT_OFF_DAYS && course.canSail(trial); i++) {
             course.pass(trial);
         }
         return trial.shipIs[ship] != SHIP_LOST;
+    }
+
+    private void forgetReached() {
+        for (int bits = 0; bits < isReached.length; bits++) {
+            isReached[bits] = bits == 0;
+        }
+    }
+
+    /** Where a SHIP is LOST, all goes as ahead unless one more of those that sailed by then is put off. */
+    private void reachFrom(int bits) {
+        for (int voyage = 0; voyage < told.voyages; voyage++) {
+            if ((course.sailed >> voyage & 1) != 0) {
+                isReached[bits | 1 << voyage] = true;
+            }
+        }
     }
 
     public int rests(int one, int other) {
@@ -660,7 +681,7 @@ public final class RopeWalk {
             course.begin(told, AS_IT_GOES);
             course.otherEvenOf = maker;
             course.otherEven = even;
-            for (int behind = 1; behind <= SEEN_DAYS; behind++) {
+            for (int behind = 1; behind <= SEEN_DAYS && course.canSail(trial); behind++) {
                 course.pass(trial);
                 sightings.noteLosses(maker, even, behind, trial, told.ships.size);
             }
@@ -847,6 +868,7 @@ public final class RopeWalk {
         private final int[] sailShip = new int[VOYAGES_MOST];
         private final int[] sailOn = new int[VOYAGES_MOST];
         private final int[] sailFor = new int[VOYAGES_MOST];
+        private int lastSailOn = NONE;
         private int storm = 0;
         private int seed = 0;
         private final Law[] laws = new Law[LAWS];
@@ -863,6 +885,7 @@ public final class RopeWalk {
             ropes.size = 0;
             ships.size = 0;
             voyages = 0;
+            lastSailOn = NONE;
             storm = 0;
             seed = 0;
             for (int i = 0; i < LAWS; i++) {
@@ -1267,6 +1290,7 @@ public final class RopeWalk {
                 return false;
             }
             told.sailFor[voyage] = tokens.value;
+            told.lastSailOn = Math.max(told.lastSailOn, told.sailOn[voyage]);
             told.voyages++;
             return true;
         }
@@ -1579,6 +1603,7 @@ public final class RopeWalk {
         // stormy without numbers; ropes are made ahead of a DAY's number, so twist always goes by this.
         private int plainStormy = 0;
         private int untold = 0;
+        private int sailed = 0;
         private int onlyShip = ALL;
         private boolean wears = true;
         private boolean allEvenNine = false;
@@ -1596,6 +1621,7 @@ public final class RopeWalk {
             boolean isAsItGoes = stormsBy == BY_NUMBERS || stormsBy == AS_IT_GOES;
             plainStormy = stormsBy == ALWAYS || (isAsItGoes && 2 * by.storm >= HUNDRED) ? 1 : 0;
             untold = 0;
+            sailed = 0;
             onlyShip = ALL;
             wears = true;
             allEvenNine = false;
@@ -1632,6 +1658,17 @@ public final class RopeWalk {
             state.day++;
         }
 
+        /** Whether a SHIP is at SEA or may be yet; without, none is LOST any more and none comes HOME. */
+        boolean canSail(State state) {
+            for (int ship = 0; ship < told.ships.size; ship++) {
+                boolean mayYet = state.shipIs[ship] == HARBOUR && state.day <= told.lastSailOn;
+                if ((mayYet || state.shipIs[ship] == SEA) && isWanted(ship)) {
+                    return true;
+                }
+            }
+            return false;
+        }
+
         private boolean isWanted(int ship) {
             return onlyShip == ALL || onlyShip == ship;
         }
@@ -1656,6 +1693,7 @@ public final class RopeWalk {
                 }
                 if (state.shipIs[ship] == HARBOUR) {
                     state.putToSea(ship, told.sailFor[voyage]);
+                    sailed |= 1 << voyage;
                 } else {
                     state.refused++;
                 }
