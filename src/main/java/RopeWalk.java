@@ -1579,8 +1579,7 @@ public final class RopeWalk {
 
         void spendDay(int ship) {
             daysLeft[ship]--;
-            if (daysLeft[ship] <= 0) {
-                daysLeft[ship] = 0;
+            if (daysLeft[ship] == 0) {
                 shipIs[ship] = HARBOUR;
                 timesHome[ship]++;
             }

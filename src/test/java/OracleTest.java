@@ -35,7 +35,7 @@ public final class OracleTest {
         boolean isAllFaults = run % 3 == 0;
         while (calls < CALLS) {
             int kind = dice.nextInt(isAllFaults ? 3 : 60);
-            boolean isSame = calls == 0 || kind == 0 ? textsAgree(isAllFaults) : callsAgree(dice.nextInt(37));
+            boolean isSame = calls == 0 || kind == 0 ? textsAgree(isAllFaults) : callsAgree(which(run));
             if (!isSame) {
                 System.out.println("run " + run + " does not agree at its last row:");
                 log.forEach(row -> System.out.println("  " + row));
@@ -43,6 +43,12 @@ public final class OracleTest {
             }
         }
         return true;
+    }
+
+    /** Some runs mostly rig, take out, mend, sail and undo, so that more than can be undone comes together. */
+    private int which(int run) {
+        int any = dice.nextInt(37);
+        return run % 5 == 1 && dice.nextInt(5) != 0 ? new int[] {8, 9, 9, 10, 10, 11, 32, 4, 5}[any % 9] : any;
     }
 
     private boolean same(String call, long got, long want) {

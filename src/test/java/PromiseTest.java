@@ -230,6 +230,15 @@ public final class PromiseTest {
         fault(head + "rig p;", 1, 39);
         fault(head + "sail x 99 30;", 0, -1);
         fault(head + "sail x 0 0;", 2, 43);
+        fault(head + "sail x 0 31;", 2, 43);
+        fault(head + "sail x 100 1;", 2, 41);
+        fault("maker a 9 9;", 0, -1);
+        fault("maker a 10 9;", 2, 8);
+        fault("maker a 9 10;", 2, 10);
+        fault("seed 100000;", 2, 5);
+        fault("storm 101;", 2, 6);
+        fault("ship x 999;", 0, -1);
+        fault("ship x 1000;", 2, 7);
         fault(head + "sail p 0 1;", 4, 39);
         fault(head + "maker a 10 1;", 3, 40);
         fault("maker a 1 1;maker b 1 1;maker c 1 1;maker d 1 1;maker e 1 1;maker f 1 1;maker", 2, 72);
@@ -475,6 +484,8 @@ public final class PromiseTest {
         sign("0*(1000*1000*1000*1000)", 0);
         sign("(1000*1000*1000*1000)/(1000*1000*1000*1000)", 1);
         sign("((((((((5))))))))", 5);
+        sign("not ".repeat(63) + "1", 0);
+        sign("((((((((" + "not ".repeat(62) + "7))))))))", 1);
     }
 
     private static void lawsOfADay() {
@@ -650,6 +661,22 @@ public final class PromiseTest {
         x = Check.told("maker m 0 0;rope p m 1 0;ship x 0;rig p x;sail x 0 30;storm 100;law twist 99;law wear stormy;");
         x.go(30);
         c.due("storm 100", Check.rope(x, 0, 3), 69);
+        oneStormAt(1);
+        oneStormAt(99);
+    }
+
+    /** With the least odds and the greatest a first number that lies just on either side of them. */
+    private static void oneStormAt(int storm) {
+        for (int side = storm - 1; side <= storm; side++) {
+            int seed = 0;
+            while ((seed * 1103515245L + 12345L) % (1L << 31) / 65536 % 100 != side) {
+                seed++;
+            }
+            RopeWalk x = Check.told("maker m 0 0;rope p m 1 0;ship x 0;rig p x;sail x 0 1;storm " + storm + ";seed " + seed
+                    + ";law twist 99;law wear stormy;");
+            x.go(1);
+            c.due("storm " + storm + " by " + side, Check.rope(x, 0, 3), side < storm ? 98 : 99);
+        }
     }
 
     private static void ahead() {
@@ -1031,6 +1058,11 @@ public final class PromiseTest {
         c.due("no ships", x.ask(0, 1, 1), -2);
         c.due("no ships, no such what", x.ask(0, 1, 2), -1);
         c.due("evens without ships", x.evens(0), 1023);
+        x = Check.told("maker m 0 5;rope p m 1 0;ship x 30;rig p x;sail x 59 2;");
+        c.due("behind 59", x.ask(0, 59, 1), 10);
+        c.due("behind 60: by 0 .. 2", x.ask(0, 60, 1), 7);
+        x.see(60, 0, true);
+        c.due("lost behind 60", x.evens(0), 7);
         x = Check.told("maker m 0 5;maker n 0 5;rope p m 1 0;ship x 1;rig p x;sail x 0 1;law pull 4;law twist even;");
         x.see(1, 0, false);
         c.due("even of laws", x.evens(0), 1023 - 15);
@@ -1044,6 +1076,7 @@ public final class PromiseTest {
         c.due("by hand", x.chance(2147483647, 2, 0), chanceByHand(2147483647, 2, 40));
         c.due("by hand, one day", x.chance(99, 1, 0), chanceByHand(99, 1, 40));
         c.due("by hand, 99 days", x.chance(7, 99, 0), chanceByHand(7, 99, 40));
+        c.due("by hand, seed 0", x.chance(0, 2, 0), chanceByHand(0, 2, 40));
         c.due("never sails", x.chance(7, 9, 1), 0);
         c.due("chance(-1, 1, 0)", x.chance(-1, 1, 0), -1);
         c.due("chance(1, 0, 0)", x.chance(1, 0, 0), -1);
@@ -1156,6 +1189,49 @@ public final class PromiseTest {
         }
         c.due("20 at most", x.count(16), 20);
         c.due("undo", x.undo(), 19);
+        oldestIsForgotten();
+    }
+
+    /** More than 20 changes, each unlike the next: the latest 20 go back one by one, to the one ahead of them. */
+    private static void oldestIsForgotten() {
+        RopeWalk x = Check.told("maker m 0 0;rope a m 1 0;rope b m 2 0;rope d m 3 0;rope e m 4 0;ship x 0;ship y 0;ship z 0;"
+                + "rig e z;sail z 0 1;law wear 99;law twist yards + bear;");
+        x.go(1);
+        c.due("e is broken", Check.rope(x, 3, 2), 2);
+        String[] ahead = new String[26];
+        for (int i = 0; i < 26; i++) {
+            ahead[i] = ropesAndShips(x);
+            boolean isSailing = i >= 23;
+            if (isSailing) {
+                x.sail(i - 23, i - 20);
+            } else if (i == 10) {
+                c.due("mend e", x.mend(3), 4);
+            } else if (i % 4 == 0) {
+                x.rig(i % 3, i % 2);
+            } else if (i % 4 == 3) {
+                x.takeOut((i - 3) % 3);
+            } else {
+                x.mend((i - i % 4) % 3);
+            }
+        }
+        c.due("count(16)", x.count(16), 20);
+        for (int i = 25; i >= 6; i--) {
+            c.due("undo " + i, x.undo(), i - 6);
+            c.due("all as ahead of " + i, ropesAndShips(x).equals(ahead[i]), true);
+        }
+        c.due("undo", x.undo(), -1);
+    }
+
+    private static String ropesAndShips(RopeWalk x) {
+        StringBuilder all = new StringBuilder();
+        for (int rope = 0; rope < x.count(1); rope++) {
+            all.append(Check.rope(x, rope, 2)).append(' ').append(Check.rope(x, rope, 3)).append(' ')
+                    .append(Check.rope(x, rope, 4)).append(';');
+        }
+        for (int ship = 0; ship < x.count(2); ship++) {
+            all.append(x.ship(ship, 1)).append(' ').append(x.ship(ship, 2)).append(';');
+        }
+        return all.toString();
     }
 
     private static void images() {
