@@ -603,6 +603,7 @@ final class Oracle {
     World start = new World();
     World now = new World();
     World image = null;
+    int imageKnown = -1;
     int[] fault = {0, -1};
     List<World> undos = new ArrayList<>();
     List<Object[]> seen = new ArrayList<>();
@@ -1149,6 +1150,7 @@ final class Oracle {
 
     int keep() {
         image = now.copy();
+        imageKnown = known;
         return now.day;
     }
 
@@ -1157,6 +1159,7 @@ final class Oracle {
             return -1;
         }
         now = image.copy();
+        known = imageKnown;
         undos.clear();
         return now.day;
     }

@@ -1274,6 +1274,27 @@ public final class PromiseTest {
         x.back();
         c.due("refused as in the image", x.count(12), 0);
         c.due("home as in the image", x.count(11), 0);
+        x = Check.told(FLEET);
+        x.see(2, 1, false);
+        x.see(2, 1, true);
+        x.known(1);
+        x.keep();
+        x.known(-1);
+        x.see(2, 1, true);
+        c.due("by all", x.evens(1), 0);
+        x.back();
+        c.due("all seen stay", x.count(14), 3);
+        c.due("known by as many as in the image", x.count(15), 1);
+        c.due("evens by the first one", x.evens(1), 896);
+        x.known(-1);
+        x.keep();
+        x.known(0);
+        x.strike(0);
+        x.back();
+        c.due("known by all in the image: also those to come", x.count(15), 4);
+        x.feed(0, 0, 0, 0, 0);
+        x.back();
+        c.due("the tape is no part of it", x.feed(0, 0, 0, 0, 0), 40);
     }
 
     private static void count() {
