@@ -30,6 +30,7 @@ public final class EdgeAskTest {
         chance();
         tried();
         questionsChangeNothing();
+        oneBehindAnother();
         c.end();
     }
 
@@ -74,6 +75,13 @@ public final class EdgeAskTest {
         c.due("of no ship", none.ahead(200, 4, 0), -1);
         x.go(200);
         c.due("LOST then, those that are so, too", x.ahead(0, 0, 0), 1);
+        x = gone("ship x 0;ship y 0;sail x 0 1;sail y 0 1;sail x 0 1;sail x 3 1;sail x 3 1;", 2);
+        c.due("two came home", x.count(11), 2);
+        c.due("none more", x.ahead(1, 1, 0), 0);
+        c.due("one more by then", x.ahead(2, 1, 0), 1);
+        c.due("one was refused", x.count(12), 1);
+        c.due("none more", x.ahead(1, 3, 0), 0);
+        c.due("one more by then", x.ahead(2, 3, 0), 1);
     }
 
     private static void loses() {
@@ -698,6 +706,12 @@ public final class EdgeAskTest {
         for (int far : FAR) {
             c.due("tried(" + far + ", 0, 1)", x.tried(far, 0, 1), -1);
         }
+        c.due("EVEN 9 bears as much", Check.told("maker m 0 0;rope p m 5 0;ship x 95;rig p x;sail x 0 1;").tried(4, 0, 1), 0);
+        c.due("not 1 more", Check.told("maker m 0 0;rope p m 5 0;ship x 96;rig p x;sail x 0 1;").tried(4, 0, 1), 1);
+        String even = "maker m 0 3;rope p m 5 0;ship x 9;rig p x;sail x 0 1;law twist even;";
+        c.due("even is 9, too", Check.told(even).tried(4, 0, 1), 0);
+        c.due("even is not 10", Check.told(even.replace("x 9", "x 10")).tried(4, 0, 1), 1);
+        c.due("ROPES MADE already stay", gone(even.replace("sail x 0", "sail x 1"), 1).tried(4, 0, 1), 1);
         RopeWalk none = new RopeWalk();
         for (int what = 0; what <= 4; what++) {
             c.due("of nothing", none.tried(what, 0, 200), what == 2 ? -1 : 0);
@@ -761,5 +775,77 @@ public final class EdgeAskTest {
             x.known(3);
             x.known(-2);
         }), true);
+    }
+
+    /** Two ROPES TO COME, one BROKEN, SHIPS in HARBOUR and at SEA, all laws by stormy and even. */
+    private static final String MANY_LAWS = "maker a 3 4;maker b 7 2;rope p a 20 0;rope q b 30 0;rope r b 5 2;rope s a 6 2;rope t a 1 0;"
+            + "ship x 50;ship y 9;ship z 0;rig p x;rig r x;rig t z;sail z 0 1;sail x 1 4;sail x 3 2;sail y 6 1;"
+            + "law twist even*9+yards+stormy*50;law wear 1+stormy*2+even;law pull sound+stormy*7;storm ";
+
+    private static final int CALLS = 38;
+
+    private static long call(RopeWalk x, int which) {
+        switch (which) {
+            case 0: return x.go(1);
+            case 1: return x.mend(1);
+            case 2: return x.mend(4);
+            case 3: return x.law(0, 0);
+            case 4: return x.law(1, 0);
+            case 5: return x.law(2, 0);
+            case 6: return x.ahead(3, 0, 0);
+            case 7: return x.ahead(3, 4, 0);
+            case 8: return x.ahead(3, 4, 2);
+            case 9: return x.loses(0);
+            case 10: return x.loses(1);
+            case 11: return x.homes(0);
+            case 12: return x.homes(2);
+            case 13: return x.weakest(0);
+            case 14: return x.splice(9, 0);
+            case 15: return x.allot(1);
+            case 16: return x.game(2);
+            case 17: return x.putOff();
+            case 18: return x.evens(0);
+            case 19: return x.evens(1);
+            case 20: return x.ask(0, 5, 1);
+            case 21: return x.ask(1, 9, 0);
+            case 22: return x.chance(77, 9, 0);
+            case 23: return x.chance(78, 9, 1);
+            case 24: case 25: case 26: case 27: case 28: return x.tried(which - 24, 0, 9);
+            case 29: return x.tried(2, 1, 9);
+            case 30: return x.see(5, 0, true);
+            case 31: return x.keep();
+            case 32: return x.back();
+            case 33: return x.rig(1, 1);
+            case 34: return x.sail(1, 2);
+            case 35: return x.ship(0, 5);
+            case 36: return x.ship(2, 5);
+            default: return x.count(13);
+        }
+    }
+
+    private static RopeWalk aheadOfBoth(int storm, boolean isEarly) {
+        RopeWalk x = Check.told(MANY_LAWS + storm + ";");
+        x.go(isEarly ? 0 : 2);
+        x.see(2, 0, false);
+        return x;
+    }
+
+    /** A question leaves no trace on the call right behind it, whichever that is. */
+    private static void oneBehindAnother() {
+        c.part("a call behind a question");
+        for (int storm : new int[] {30, 60}) {
+            for (int which = 0; which < CALLS; which++) {
+                boolean isQuestion = which >= 3 && which <= 29 || which >= 35;
+                for (int next = 0; isQuestion && next < CALLS; next++) {
+                    for (boolean isEarly : new boolean[] {true, false}) {
+                        RopeWalk with = aheadOfBoth(storm, isEarly);
+                        RopeWalk without = aheadOfBoth(storm, isEarly);
+                        call(with, which);
+                        c.due("call " + next + " behind " + which, call(with, next), call(without, next));
+                        c.due("all behind " + which + ", " + next, Look.of(with).equals(Look.of(without)), true);
+                    }
+                }
+            }
+        }
     }
 }

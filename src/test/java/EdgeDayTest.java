@@ -340,6 +340,13 @@ public final class EdgeDayTest {
         c.due("5 ahead of 9 of 4 and 3", gone(head + "rope p a 4 0;rope q d 7 0;rope r e 3 0;" + tail + "rig p x;rig q x;rig r x;", 1)
                 .ship(0, 5), 5);
         c.due("0 and 9 alike", gone(head + "rope p b 7 0;rope q a 7 0;" + tail + "rig p x;rig q x;", 1).ship(0, 5), 0);
+        for (int thought = 0; thought <= 9; thought++) {
+            String other = "maker f " + thought + " 1;rope p f 9 0;rope q b 8 0;rope r d 7 0;";
+            RopeWalk x = gone(head + other + tail + "rig p x;rig q x;rig r y;", 1);
+            c.due("of THOUGHT " + thought, x.ship(0, 5), thought);
+            c.due("of another ship, whatever was asked ahead", x.ship(1, 5), 5);
+            c.due("of THOUGHT " + thought + " still", x.ship(0, 5), thought);
+        }
         c.due("yards, not sound", gone(head + "rope p a 7 0;rope q d 6 0;law twist day;" + tail + "rig p x;rig q x;", 1).ship(0, 5), 9);
     }
 

@@ -31,6 +31,7 @@ public final class EdgeTextTest {
         textByItsLength();
         textRefused();
         textBegins();
+        nothingIsLeftOver();
         faultOfTheLatest();
         named();
         c.end();
@@ -675,10 +676,72 @@ public final class EdgeTextTest {
         faultAtOnce(x);
         Check.tell(x, Look.SMALL);
         c.due("as on a new object", Look.behind(x).equals(Look.behind(Check.told(Look.SMALL))), true);
+        x = gone(Look.SMALL.replace("ship x 50", "ship x 5"));
+        c.due("some were refused", x.count(12) > 0, true);
+        c.due("some came home", x.count(11) > 0, true);
+        Check.tell(x, Look.SMALL);
+        c.due("as on a new object", Look.behind(x).equals(Look.behind(Check.told(Look.SMALL))), true);
         x = new RopeWalk();
         muchDone(x);
         x.text(0);
         c.due("as a new object", Look.behind(x).equals(Look.behind(new RopeWalk())), true);
+    }
+
+    private static RopeWalk gone(String text) {
+        RopeWalk x = Check.told(text);
+        x.go(9);
+        return x;
+    }
+
+    /** Of what was told ahead, or read ahead of a FAULT, nothing is found in a later TEXT. */
+    private static void nothingIsLeftOver() {
+        c.part("3: the bytes are the TEXT, and nothing else is");
+        String all = many("maker ? 9 9;", "abcdef", 6) + many("rope ? f 99 0;", "abcdefgh", 8) + many("ship ? 9;", "abcde", 5)
+                + many("rig ? e;", "abcdefgh", 8) + many("sail d 0 9;", "abcdefghij", 10) + "storm 70;seed 99999;law twist 1;law wear 2;"
+                + "law pull 3;";
+        String[] faulty = {all + "#", all + "maker", "storm 1;storm", "seed 1;seed", "law twist ((((((((1", "law wear 1+2*3<4 and",
+            "law pull not not not (1 or (2", "maker a 1 1;rope a a 1 0;ship a 1;rig a a;rig", "ship x 1;sail x 0 1;sail x 1 1;sail",
+            "law twist " + ones(65) + ";"};
+        String[] texts = {" ", Look.SMALL, "law pull " + nested(8, "1") + ";ship x 1;", "law wear 1 or 2 and 3;storm 2;seed 3;", all,
+            "law twist " + ones(63) + ";maker a 1 1;rope a a 1 0;"};
+        for (String text : texts) {
+            String due = Look.behind(Check.told(text));
+            RopeWalk x = new RopeWalk();
+            for (int i = 0; i < 4; i++) {
+                c.due("all of everything", Check.tell(x, all) > 0, true);
+            }
+            Check.tell(x, text);
+            c.due("behind others: " + text, Look.behind(x).equals(due), true);
+            for (String fault : faulty) {
+                x = new RopeWalk();
+                Check.tell(x, fault);
+                Check.tell(x, text);
+                c.due("behind one with a FAULT: " + text, Look.behind(x).equals(due), true);
+                x = Check.told(all);
+                Check.tell(x, fault);
+                Check.tell(x, fault);
+                Check.tell(x, text);
+                c.due("behind some with a FAULT: " + text, Look.behind(x).equals(due), true);
+            }
+        }
+        evensOfALaterText();
+    }
+
+    private static void evensOfALaterText() {
+        c.part("3: what is worked out of one TEXT is not that of the next");
+        RopeWalk x = new RopeWalk();
+        for (int load = 15; load <= 95; load += 10) {
+            Check.tell(x, "maker m 0 1;maker n 0 1;rope p m 1 0;rope q n 1 0;ship x " + load + ";ship y " + (110 - load)
+                    + ";rig p x;rig q y;sail x 0 1;sail y 0 1;");
+            x.see(1, 0, true);
+            c.due("lost by EVEN below " + load, x.evens(0), (1 << (load + 8) / 10) - 1);
+            c.due("not so by n's", x.evens(1), 1023);
+            x.known(0);
+            x.see(1, 1, true);
+            x.strike(0);
+            x.known(3);
+            c.due("lost by n's EVEN below", x.evens(1), (1 << (118 - load) / 10) - 1);
+        }
     }
 
     private static void faultOfTheLatest() {
