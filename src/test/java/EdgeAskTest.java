@@ -180,6 +180,9 @@ public final class EdgeAskTest {
         c.due("by none", x.splice(694, 0), -2);
         c.due("by none", x.splice(694, 1), -2);
         c.due("by all that are in none", x.splice(693, 1), 0);
+        x.rig(0, 0);
+        c.due("not one in a ship, for 1 neither", x.splice(1, 0), 2);
+        c.due("for 1", x.splice(1, 1), 98);
         RopeWalk none = new RopeWalk();
         c.due("no ropes", none.splice(1, 0), -2);
         c.due("no ropes", none.splice(792, 1), -2);

@@ -22,6 +22,8 @@ public final class EdgeDayTest {
         lost();
         home();
         mood();
+        namesOfLaws();
+        namesBySomeDays();
         values();
         asItGoes();
         rope();
@@ -348,6 +350,57 @@ public final class EdgeDayTest {
             c.due("of THOUGHT " + thought + " still", x.ship(0, 5), thought);
         }
         c.due("yards, not sound", gone(head + "rope p a 7 0;rope q d 6 0;law twist day;" + tail + "rig p x;rig q x;", 1).ship(0, 5), 9);
+    }
+
+    private static void namesOfLaws() {
+        c.part("NAMES: (of pull 0), (of pull even 0, think MOOD), (of pull LOAD; of twist 0), (of a ROPE in none 0)");
+        String[] names = {"yards", "even", "think", "sound", "bear", "stormy", "day"};
+        // By DAY 2: p MADE in x in HARBOUR, q BROKEN at SEA, r LOST, s BROKEN in x, t TO COME, u MADE in none.
+        long[][] twist = {{9, 3, 2, 0, 4, 0, 2}, {9, 3, 2, 0, 0, 0, 2}, {9, 3, 2, 0, 0, 0, 2}, {1, 3, 2, 0, 4, 0, 2}, {5, 3, 2, 0, 0, 0, 2},
+            {7, 3, 2, 0, 0, 0, 2}};
+        long[] sound = {4, 0, 39, 0, 0, 37};
+        long[][] pull = {{0, 0, 2, 0, 4, 0, 2}, {0, 0, 0, 0, 0, 0, 2}, {0, 0, 0, 99, 0, 0, 2}, {0, 0, 0, 5, 0, 0, 2}};
+        for (int name = 0; name < names.length; name++) {
+            // Till DAY 2 the laws are the plain ones, so that all comes about as in ALL_KINDS; then they are the name alone.
+            String plain = ALL_KINDS.replace("law wear 35;", "");
+            RopeWalk x = gone(plain + "law wear 35*(day<2)+" + names[name] + "*(day>=2);law twist (even*10+yards)*(day<2)+" + names[name]
+                    + "*(day>=2);law pull sound*(day<2)+" + names[name] + "*(day>=2);", 2);
+            for (int rope = 0; rope < 6; rope++) {
+                c.due(names[name] + " of twist of " + rope, x.law(0, rope), twist[rope][name]);
+                c.due(names[name] + " of wear of " + rope, x.law(1, rope), name == 3 ? sound[rope] : twist[rope][name]);
+            }
+            for (int ship = 0; ship < 4; ship++) {
+                c.due(names[name] + " of pull of " + ship, x.law(2, ship), pull[ship][name]);
+            }
+        }
+    }
+
+    private static void namesBySomeDays() {
+        c.part("bear: BEAR of the SHIP as it is by then; stormy: 1 in a storm; day: the DAY");
+        RopeWalk x = gone("maker m 0 0;rope p m 5 0;rope q m 6 0;rope r m 7 0;ship x 0;rig q x;rig p x;law twist yards+bear;", 1);
+        c.due("p, made first", Check.rope(x, 0, 3), 5);
+        c.due("q, beside p", Check.rope(x, 1, 3), 11);
+        c.due("r, in none", Check.rope(x, 2, 3), 7);
+        x = gone("maker m 0 0;rope p m 50 0;rope q m 60 0;ship x 0;rig p x;rig q x;sail x 0 1;law wear bear;", 1);
+        c.due("p by 110, 99 at most: broken", Check.rope(x, 0, 2), 2);
+        c.due("q by 60, what p was is gone: broken", Check.rope(x, 1, 2), 2);
+        x = gone("maker m 0 0;rope p m 50 0;rope q m 61 0;ship x 0;rig p x;rig q x;sail x 0 1;law wear bear-1;", 1);
+        c.due("q by 60 of 61", Check.rope(x, 1, 3), 1);
+        x = Check.told("ship x 0;law pull day;law twist day;");
+        for (int day : new int[] {0, 1, 200}) {
+            c.due("day", x.law(2, 0), day);
+            x.go(day == 1 ? 199 : 1);
+        }
+        for (int i = 0; i < 43; i++) {
+            x.go(200);
+        }
+        x.go(199);
+        c.due("the last day", x.law(2, 0), 9000);
+        x = gone("maker m 0 0;rope p m 9 0;ship x 0;rig p x;sail x 1 3;law wear day;", 1);
+        c.due("9 - 1 - 2", x.ahead(2, 4, 0), 6);
+        c.due("9 - 1 - 2 - 3", x.ahead(3, 4, 0), 3);
+        x.go(3);
+        c.due("by DAYS", x.ship(0, 4), 3);
     }
 
     private static void value(String e, long due) {

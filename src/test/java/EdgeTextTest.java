@@ -702,7 +702,7 @@ public final class EdgeTextTest {
         String[] faulty = {all + "#", all + "maker", "storm 1;storm", "seed 1;seed", "law twist ((((((((1", "law wear 1+2*3<4 and",
             "law pull not not not (1 or (2", "maker a 1 1;rope a a 1 0;ship a 1;rig a a;rig", "ship x 1;sail x 0 1;sail x 1 1;sail",
             "law twist " + ones(65) + ";"};
-        String[] texts = {" ", Look.SMALL, "law pull " + nested(8, "1") + ";ship x 1;", "law wear 1 or 2 and 3;storm 2;seed 3;", all,
+        String[] texts = {" ", Look.SMALL, Look.SMALL.replace("seed 7;", ""), "law pull " + nested(8, "1") + ";ship x 1;", "law wear 1 or 2 and 3;storm 2;seed 3;", all,
             "law twist " + ones(63) + ";maker a 1 1;rope a a 1 0;"};
         for (String text : texts) {
             String due = Look.behind(Check.told(text));
@@ -741,6 +741,11 @@ public final class EdgeTextTest {
             x.strike(0);
             x.known(3);
             c.due("lost by n's EVEN below", x.evens(1), (1 << (118 - load) / 10) - 1);
+        }
+        for (int i = 0; i < 2; i++) {
+            Check.tell(x, "maker m 0 1;rope p m 1 0;ship x 1;rig p x;sail x 0 1;");
+            x.see(1, 0, true);
+            c.due("lost by none", x.evens(0), 0);
         }
     }
 
