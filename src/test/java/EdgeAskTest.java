@@ -29,6 +29,7 @@ public final class EdgeAskTest {
         ask();
         chance();
         tried();
+        allFull();
         questionsChangeNothing();
         oneBehindAnother();
         c.end();
@@ -723,6 +724,54 @@ public final class EdgeAskTest {
         for (int what = 0; what <= 4; what++) {
             c.due("those that are lost", x.tried(what, 0, 0), 2);
         }
+    }
+
+    /** As many of everything as may be, asked up to the last one of each. */
+    private static void allFull() {
+        c.part("as many of everything as may be");
+        StringBuilder text = new StringBuilder();
+        for (int i = 0; i < 6; i++) {
+            text.append("maker ").append((char) ('a' + i)).append(" ").append(i).append(" ").append(i).append(";");
+        }
+        for (int i = 0; i < 8; i++) {
+            text.append("rope ").append((char) ('a' + i)).append(" f ").append(11 + i).append(" 0;");
+        }
+        text.append("ship a 1;ship b 2;ship c 0;ship d 3;ship e 516;");
+        for (int i = 0; i < 8; i++) {
+            text.append("rig ").append((char) ('a' + i)).append(" e;");
+        }
+        RopeWalk x = gone(text + "sail e 99 30;".repeat(10), 1);
+        c.due("weakest(4)", x.weakest(4), 0);
+        c.due("ship(4, 4)", x.ship(4, 4), 516);
+        c.due("ship(4, 5)", x.ship(4, 5), 5);
+        c.due("ship(4, 6)", x.ship(4, 6), 255);
+        c.due("rope(7, 3)", Check.rope(x, 7, 3), 68);
+        c.due("game(0)", x.game(0), 0);
+        c.due("game(1)", x.game(1), 5);
+        c.due("game(2): 16 to 8", x.game(2), 8);
+        allotted(x, -2, -2, -2, -2, -2, -2, -2, -2, 2, 0);
+        c.due("borne on its first day, not on its second", x.loses(4), 100);
+        c.due("not within 60", x.putOff(), 0);
+        c.due("homes(4)", x.homes(4), -2);
+        c.due("ahead(100, 0, 4)", x.ahead(100, 0, 4), 1);
+        c.due("ahead(100, 3, 4): nine of the same DAY", x.ahead(100, 3, 4), 9);
+        c.due("ahead(98, 4, 4)", x.ahead(98, 4, 4), 516);
+        c.due("chance(1, 99, 4)", x.chance(1, 99, 4), 0);
+        c.due("tried(2, 4, 200)", x.tried(2, 4, 200), 0);
+        c.due("tried(3, 0, 200)", x.tried(3, 0, 200), 0);
+        c.due("rests(5, 4)", x.rests(5, 4), x.rests(4, 5));
+        c.due("evens(5)", x.evens(5), 1023);
+        c.due("ask(5, 60, 0)", x.ask(5, 60, 0), 0);
+        c.due("splice(1, 0)", x.splice(1, 0), -2);
+        c.due("takeOut(7)", x.takeOut(7), true);
+        allotted(x, -2, -2, -2, -2, -2, -2, -2, 0, 2, 68);
+        c.due("splice(18, 0)", x.splice(18, 0), 128);
+        c.due("exact(18)", x.exact(18), 1);
+        x.go(40);
+        c.due("lost on DAY 99, within 60 of DAY 41", x.putOff(), 1023);
+        x.go(59);
+        c.due("all eight, but the one in none", x.count(8), 7);
+        c.due("lost", x.ship(4, 1), 2);
     }
 
     private static void questionsChangeNothing() {
