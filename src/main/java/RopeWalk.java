@@ -118,8 +118,6 @@ public final class RopeWalk {
     private final State image = new State();
     private final State trial = new State();
     private boolean hasImage = false;
-    // Of KNOWN the IMAGE has by how many; SEEN only grows till the next TEXT, so there are as many still.
-    private int imageKnownBy = ALL;
     private final Days course = new Days(told);
     private final Sightings sightings = new Sightings();
     private final Changes changes = new Changes();
@@ -732,7 +730,6 @@ public final class RopeWalk {
 
     public int keep() {
         image.copy(now);
-        imageKnownBy = sightings.knownBy;
         hasImage = true;
         return now.day;
     }
@@ -742,7 +739,6 @@ public final class RopeWalk {
             return NONE;
         }
         now.copy(image);
-        sightings.knownBy = imageKnownBy;
         changes.forget();
         return now.day;
     }

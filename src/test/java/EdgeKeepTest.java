@@ -272,7 +272,7 @@ public final class EdgeKeepTest {
         }
         x.back();
         c.due("24 stay", x.see(1, 0, false), -1);
-        c.part("36: by how many it is KNOWN is as in the IMAGE");
+        c.part("36: by how many it is KNOWN is of what was SEEN: from known() on, whatever the IMAGE");
         x = gone(FLEET, 1);
         x.see(2, 2, true);
         x.see(1, 2, true);
@@ -280,13 +280,17 @@ public final class EdgeKeepTest {
         x.keep();
         x.known(2);
         x.back();
-        c.due("by 0", x.count(15), 0);
-        x.known(-1);
+        c.due("by 2", x.count(15), 2);
         x.keep();
-        x.known(1);
-        x.see(1, 0, false);
+        x.known(0);
         x.back();
-        c.due("by all, those that came behind it, too", x.count(15), 3);
+        c.due("by 0", x.count(15), 0);
+        c.due("all EVENS", x.evens(0), 1023);
+        x.keep();
+        x.known(-1);
+        x.back();
+        x.see(1, 0, false);
+        c.due("by all, those that come behind it, too", x.count(15), 3);
     }
 
     private static void nothingToUndoThen() {

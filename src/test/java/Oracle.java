@@ -603,7 +603,6 @@ final class Oracle {
     World start = new World();
     World now = new World();
     World image = null;
-    int imageKnown = -1;
     int[] fault = {0, -1};
     List<World> undos = new ArrayList<>();
     List<Object[]> seen = new ArrayList<>();
@@ -1150,7 +1149,6 @@ final class Oracle {
 
     int keep() {
         image = now.copy();
-        imageKnown = known;
         return now.day;
     }
 
@@ -1159,7 +1157,6 @@ final class Oracle {
             return -1;
         }
         now = image.copy();
-        known = imageKnown;
         undos.clear();
         return now.day;
     }
